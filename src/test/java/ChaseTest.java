@@ -87,6 +87,7 @@ public final class ChaseTest {
         Check.due("10 two cops, most 1", x.timeAnew(4, 0, 2, 1), -1);
         Check.due("10 next", x.timeAnew(0, ALONE, 1, 1), 1);
         Check.due("10 next, most 0", x.timeAnew(0, ALONE, 1, 0), -1);
+        Check.due("10 next to the second", x.timeAnew(0, 3, 4, 1), 1);
         Check.due("10 caught", x.timeAnew(2, ALONE, 2, 0), 0);
         Check.due("10 caught by the second", x.timeAnew(0, 2, 2, 3), 0);
         Check.due("10 for ever", withFamily(5, Coppinghouse.RING).timeAnew(0, ALONE, 2, 3), -1);
@@ -109,10 +110,9 @@ public final class ChaseTest {
         // 1 and 2 both look at all rooms: the lower one is the best.
         Coppinghouse kite = withDoors(4, 0, 1, 0, 2, 1, 2, 1, 3, 2, 3);
         Check.due("11 the lowest", kite.step(0, ALONE, 3), 1);
-        // A cop who looks at all of the robber's ways may stay; a room with a lower number is better.
-        Check.due("11 the lowest is its own", withFamily(3, Coppinghouse.STAR).step(0, ALONE, 2), 2);
-        Coppinghouse stays = withDoors(5, 0, 4, 1, 3, 0, 1);
-        Check.due("11 path 4 0 1 3", stays.step(4, ALONE, 3), 0);
+        Check.due("11 staying is never better", withFamily(3, Coppinghouse.STAR).step(0, ALONE, 2), 2);
+        Coppinghouse mixed = withDoors(5, 0, 4, 1, 3, 0, 1);
+        Check.due("11 along 4 0 1 3", mixed.step(4, ALONE, 3), 0);
     }
 
     private static void promise11StepOfTwo() {
@@ -139,7 +139,7 @@ public final class ChaseTest {
         Check.due("12 caught", path.away(2, ALONE, 2), -1);
         Check.due("12 caught by the second", path.away(0, 2, 2), -1);
         Check.due("12 between two", path.away(0, 2, 1), 1);
-        Check.due("12 the room ahead of a cop's is lower", withFamily(3, Coppinghouse.PATH).away(0, 2, 1), 1);
+        Check.due("12 rooms with a cop are no flight", withFamily(3, Coppinghouse.PATH).away(0, 2, 1), 1);
         Coppinghouse ring = withFamily(5, Coppinghouse.RING);
         Check.due("12 none is greater than all", ring.away(0, ALONE, 1), 2);
         Check.due("12 the lowest of several", ring.away(0, ALONE, 3), 2);

@@ -109,20 +109,20 @@ public final class RabbitTest {
         Check.due("18 no doors", bare.aim(), 0);
         bare.shoot(0);
         Check.due("18 empty", bare.aim(), -1);
-        // Behind any shot the rabbit of room 2 is nowhere: a room outside of its set is the lowest.
-        Coppinghouse outside = new Coppinghouse();
-        outside.rooms(3);
-        outside.door(1, 2, true);
-        Check.due("18 the set's lowest", outside.aim(), 1);
-        Check.due("18 shoot", outside.shoot(1), 2);
-        Check.due("18 in the set", outside.aim(), 1);
-        Coppinghouse tail = withFamily(4, Coppinghouse.STAR);
-        Check.due("18 the middle", tail.shoot(1), 15);
-        Check.due("18 the middle again", tail.shoot(0), 1);
-        Check.due("18 hunt", tail.hunt(), 1);
-        Check.due("18 only 0", tail.aim(), 0);
-        Check.due("18 into the ends", tail.shoot(1), 14);
-        Check.due("18 the lowest, outside of the set", tail.aim(), 0);
+        Coppinghouse door = new Coppinghouse();
+        door.rooms(3);
+        door.door(1, 2, true);
+        Check.due("18 room 0 has no door", door.aim(), 1);
+        Check.due("18 shoot", door.shoot(1), 2);
+        Check.due("18 in the set", door.aim(), 1);
+        Coppinghouse star = withFamily(4, Coppinghouse.STAR);
+        Check.due("18 the middle", star.shoot(1), 15);
+        Check.due("18 the middle again", star.shoot(0), 1);
+        Check.due("18 hunt", star.hunt(), 1);
+        Check.due("18 only 0", star.aim(), 0);
+        Check.due("18 into the ends", star.shoot(1), 14);
+        // Wherever the shot goes, the rabbit is in 0 or nowhere then: one shot more is enough.
+        Check.due("18 the lowest, outside of the set", star.aim(), 0);
     }
 
     private static void promise18AimHuntsDown() {
