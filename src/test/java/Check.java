@@ -1,15 +1,38 @@
 import java.util.Objects;
+import java.util.function.Supplier;
 
 /** What all tests share: counts the answers that are not due, tells them, and ends the program. */
 final class Check {
     private static int looked = 0;
     private static int wrong = 0;
+    private static String sentence = "";
+    private static int wrongInSentence = 0;
 
     private Check() {
     }
 
     interface Call {
         Object answer();
+    }
+
+    interface CallOn {
+        Object answer(Coppinghouse x);
+    }
+
+    /** Names the promise, and the document's words, that all answers from now on stand for. */
+    static void sentence(String promise, String words) {
+        sentence = promise + " \"" + words + "\": ";
+        wrongInSentence = 0;
+    }
+
+    /** Runs one test; an exception out of it is one wrong answer, and the tests behind it run all the same. */
+    static void each(Runnable test) {
+        due("the test", told(() -> ended(test)), "ended");
+    }
+
+    private static String ended(Runnable test) {
+        test.run();
+        return "ended";
     }
 
     /** The answer of a call as a text; an exception is told by its simple name behind "throws.". */
@@ -25,8 +48,9 @@ final class Check {
         looked++;
         if (!Objects.equals(String.valueOf(got), String.valueOf(due))) {
             wrong++;
-            if (wrong <= 20) {
-                System.out.println(what + " answered " + got + ", due is " + due);
+            wrongInSentence++;
+            if (wrongInSentence <= 20) {
+                System.out.println(sentence + what + " answered " + got + ", due is " + due);
             }
         }
     }
@@ -41,6 +65,13 @@ final class Check {
 
     static void state(String what, Call call) {
         due(what, told(call), "throws.IllegalStateException");
+    }
+
+    /** A call throws, and all that can be asked is behind it as in an object that was made in the same way. */
+    static void changesNothing(String what, Supplier<Coppinghouse> made, CallOn call, String due) {
+        Coppinghouse x = made.get();
+        due(what, told(() -> call.answer(x)), due);
+        due(what + ", and all behind it", Whole.unwound(x), Whole.unwound(made.get()));
     }
 
     static void end(String test) {

@@ -11,50 +11,43 @@ public final class ColoursTest {
         Check.end("ColoursTest");
     }
 
-    private static Coppinghouse withFamily(int many, int family) {
-        Coppinghouse x = new Coppinghouse();
-        x.rooms(many);
-        x.family(family);
-        return x;
-    }
-
     private static void promise19Forced() {
-        Coppinghouse path = withFamily(9, Coppinghouse.PATH);
+        Coppinghouse path = Make.family(9, Coppinghouse.PATH);
         Check.due("19 from the end", path.forced(1), 511);
         Check.due("19 from the other end", path.forced(256), 511);
         Check.due("19 from the middle", path.forced(16), 16);
         Check.due("19 two in the middle", path.forced(24), 511);
         Check.due("19 nothing", path.forced(0), 0);
         Check.due("19 all", path.forced(511), 511);
-        Coppinghouse star = withFamily(5, Coppinghouse.STAR);
+        Coppinghouse star = Make.family(5, Coppinghouse.STAR);
         Check.due("19 an end forces the middle", star.forced(2), 3);
         Check.due("19 all ends but one", star.forced(14), 31);
         Check.due("19 three are blue", star.forced(6), 7);
         // Both force the same room.
-        Check.due("19 from both sides", withFamily(3, Coppinghouse.PATH).forced(5), 7);
+        Check.due("19 from both sides", Make.family(3, Coppinghouse.PATH).forced(5), 7);
     }
 
     private static void promise20Rounds() {
-        Coppinghouse path = withFamily(9, Coppinghouse.PATH);
+        Coppinghouse path = Make.family(9, Coppinghouse.PATH);
         Check.due("20 from the end", path.rounds(1), 8);
         Check.due("20 from both ends", path.rounds(257), 4);
         Check.due("20 from the middle", path.rounds(16), 0);
         Check.due("20 two in the middle", path.rounds(24), 4);
         Check.due("20 nothing", path.rounds(0), 0);
         Check.due("20 all", path.rounds(511), 0);
-        Check.due("20 both ends of 4", withFamily(4, Coppinghouse.PATH).rounds(9), 1);
-        Coppinghouse star = withFamily(5, Coppinghouse.STAR);
+        Check.due("20 both ends of 4", Make.family(4, Coppinghouse.PATH).rounds(9), 1);
+        Coppinghouse star = Make.family(5, Coppinghouse.STAR);
         Check.due("20 first the middle", star.rounds(14), 2);
         Check.due("20 the middle is blue", star.rounds(15), 1);
         // In a ring of 6 from 0 and 1: 2 and 5, then 3 and 4.
-        Check.due("20 ring", withFamily(6, Coppinghouse.RING).rounds(3), 2);
+        Check.due("20 ring", Make.family(6, Coppinghouse.RING).rounds(3), 2);
     }
 
     private static void promise21LeastBlue() {
-        Check.due("21 path", withFamily(9, Coppinghouse.PATH).leastBlue(), 1);
-        Check.due("21 ring", withFamily(9, Coppinghouse.RING).leastBlue(), 3);
-        Check.due("21 star", withFamily(5, Coppinghouse.STAR).leastBlue(), 14);
-        Check.due("21 all", withFamily(5, Coppinghouse.ALL).leastBlue(), 15);
+        Check.due("21 path", Make.family(9, Coppinghouse.PATH).leastBlue(), 1);
+        Check.due("21 ring", Make.family(9, Coppinghouse.RING).leastBlue(), 3);
+        Check.due("21 star", Make.family(5, Coppinghouse.STAR).leastBlue(), 14);
+        Check.due("21 all", Make.family(5, Coppinghouse.ALL).leastBlue(), 15);
         Coppinghouse x = new Coppinghouse();
         x.rooms(9);
         Check.due("21 no doors", x.leastBlue(), 511);
@@ -70,7 +63,7 @@ public final class ColoursTest {
     }
 
     private static void wrongSets() {
-        Coppinghouse x = withFamily(4, Coppinghouse.PATH);
+        Coppinghouse x = Make.family(4, Coppinghouse.PATH);
         int[] wrong = {16, 17, 31, 512, -1, -16, Integer.MAX_VALUE, Integer.MIN_VALUE};
         for (int blue : wrong) {
             Check.argument("19 forced " + blue, () -> x.forced(blue));

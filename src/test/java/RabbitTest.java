@@ -13,15 +13,8 @@ public final class RabbitTest {
         Check.end("RabbitTest");
     }
 
-    private static Coppinghouse withFamily(int many, int family) {
-        Coppinghouse x = new Coppinghouse();
-        x.rooms(many);
-        x.family(family);
-        return x;
-    }
-
     private static void promise15Rabbit() {
-        Coppinghouse x = withFamily(9, Coppinghouse.STAR);
+        Coppinghouse x = Make.family(9, Coppinghouse.STAR);
         Check.due("15 all", x.rabbit(), 511);
         x.shoot(0);
         Check.due("15 all to the middle", x.rabbit(), 1);
@@ -43,12 +36,12 @@ public final class RabbitTest {
         // On a path of n rooms the hunt goes up and down between the second room and the last but one.
         int[] path = {0, 1, 2, 2, 4, 6, 8, 10, 12, 14};
         for (int many = 1; many <= 9; many++) {
-            Check.due("16 path of " + many, withFamily(many, Coppinghouse.PATH).hunt(), path[many]);
+            Check.due("16 path of " + many, Make.family(many, Coppinghouse.PATH).hunt(), path[many]);
         }
-        Check.due("16 star", withFamily(9, Coppinghouse.STAR).hunt(), 2);
-        Check.due("16 all of 2", withFamily(2, Coppinghouse.ALL).hunt(), 2);
-        Check.due("16 all of 3", withFamily(3, Coppinghouse.ALL).hunt(), -1);
-        Check.due("16 ring", withFamily(9, Coppinghouse.RING).hunt(), -1);
+        Check.due("16 star", Make.family(9, Coppinghouse.STAR).hunt(), 2);
+        Check.due("16 all of 2", Make.family(2, Coppinghouse.ALL).hunt(), 2);
+        Check.due("16 all of 3", Make.family(3, Coppinghouse.ALL).hunt(), -1);
+        Check.due("16 ring", Make.family(9, Coppinghouse.RING).hunt(), -1);
         Coppinghouse bare = new Coppinghouse();
         bare.rooms(9);
         Check.due("16 no doors", bare.hunt(), 1);
@@ -57,7 +50,7 @@ public final class RabbitTest {
     }
 
     private static void promise16HuntFollows() {
-        Coppinghouse x = withFamily(5, Coppinghouse.PATH);
+        Coppinghouse x = Make.family(5, Coppinghouse.PATH);
         x.shoot(1);
         Check.due("16 one less", x.hunt(), 5);
         x.shoot(0);
@@ -77,9 +70,9 @@ public final class RabbitTest {
     private static void promise17HuntAnew() {
         int[] due = {-1, -1, -1, -1, 4};
         for (int most = 0; most <= 4; most++) {
-            Check.due("17 path of 4, most " + most, withFamily(4, Coppinghouse.PATH).huntAnew(most), due[most]);
+            Check.due("17 path of 4, most " + most, Make.family(4, Coppinghouse.PATH).huntAnew(most), due[most]);
         }
-        Coppinghouse x = withFamily(5, Coppinghouse.PATH);
+        Coppinghouse x = Make.family(5, Coppinghouse.PATH);
         Check.due("17 greater than most", x.huntAnew(4), -1);
         x.shoot(1);
         Check.due("17 5 are left", x.huntAnew(4), -1);
@@ -90,7 +83,7 @@ public final class RabbitTest {
         Check.argument("17 most 5", () -> x.huntAnew(5));
         Check.argument("17 most far", () -> x.huntAnew(Integer.MAX_VALUE));
         Check.argument("17 most low", () -> x.huntAnew(Integer.MIN_VALUE));
-        Check.due("17 none", withFamily(3, Coppinghouse.RING).huntAnew(4), -1);
+        Check.due("17 none", Make.family(3, Coppinghouse.RING).huntAnew(4), -1);
         Coppinghouse one = new Coppinghouse();
         Check.due("17 one room, most 0", one.huntAnew(0), -1);
         Check.due("17 one room, most 4", one.huntAnew(4), 1);
@@ -100,10 +93,10 @@ public final class RabbitTest {
     }
 
     private static void promise18Aim() {
-        Check.due("18 path of 5", withFamily(5, Coppinghouse.PATH).aim(), 1);
-        Check.due("18 path of 2", withFamily(2, Coppinghouse.PATH).aim(), 0);
-        Check.due("18 star", withFamily(9, Coppinghouse.STAR).aim(), 0);
-        Check.due("18 ring", withFamily(5, Coppinghouse.RING).aim(), -1);
+        Check.due("18 path of 5", Make.family(5, Coppinghouse.PATH).aim(), 1);
+        Check.due("18 path of 2", Make.family(2, Coppinghouse.PATH).aim(), 0);
+        Check.due("18 star", Make.family(9, Coppinghouse.STAR).aim(), 0);
+        Check.due("18 ring", Make.family(5, Coppinghouse.RING).aim(), -1);
         Coppinghouse bare = new Coppinghouse();
         bare.rooms(3);
         Check.due("18 no doors", bare.aim(), 0);
@@ -115,7 +108,7 @@ public final class RabbitTest {
         Check.due("18 room 0 has no door", door.aim(), 1);
         Check.due("18 shoot", door.shoot(1), 2);
         Check.due("18 in the set", door.aim(), 1);
-        Coppinghouse star = withFamily(4, Coppinghouse.STAR);
+        Coppinghouse star = Make.family(4, Coppinghouse.STAR);
         Check.due("18 the middle", star.shoot(1), 15);
         Check.due("18 the middle again", star.shoot(0), 1);
         Check.due("18 hunt", star.hunt(), 1);
@@ -127,7 +120,7 @@ public final class RabbitTest {
 
     private static void promise18AimHuntsDown() {
         for (int many = 1; many <= 9; many++) {
-            Coppinghouse x = withFamily(many, Coppinghouse.PATH);
+            Coppinghouse x = Make.family(many, Coppinghouse.PATH);
             for (int left = x.hunt(); left > 0; left--) {
                 Check.due("18 path of " + many, x.hunt(), left);
                 x.shoot(x.aim());

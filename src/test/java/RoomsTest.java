@@ -21,18 +21,6 @@ public final class RoomsTest {
         Check.end("RoomsTest");
     }
 
-    private static Coppinghouse withRooms(int many) {
-        Coppinghouse x = new Coppinghouse();
-        x.rooms(many);
-        return x;
-    }
-
-    private static Coppinghouse withFamily(int many, int family) {
-        Coppinghouse x = withRooms(many);
-        x.family(family);
-        return x;
-    }
-
     private static void promise1NewObject() {
         Coppinghouse x = new Coppinghouse();
         Check.due("1 doors", x.doors(), 0);
@@ -55,7 +43,7 @@ public final class RoomsTest {
     }
 
     private static void promise2Rooms() {
-        Coppinghouse x = withFamily(5, Coppinghouse.ALL);
+        Coppinghouse x = Make.family(5, Coppinghouse.ALL);
         Check.due("2 rooms 9", x.rooms(9), 5);
         Check.due("2 no doors", x.doors(), 0);
         Check.due("2 next 8", x.next(8), 0);
@@ -80,7 +68,7 @@ public final class RoomsTest {
         int[][] due = {{0, 1, 2, 3, 8}, {-1, -1, 3, 4, 9}, {0, 1, 2, 3, 8}, {0, 1, 3, 6, 36}};
         for (int at = 0; at < sizes.length; at++) {
             for (int family = Coppinghouse.PATH; family <= Coppinghouse.ALL; family++) {
-                Coppinghouse x = withRooms(sizes[at]);
+                Coppinghouse x = Make.rooms(sizes[at]);
                 int which = family;
                 String name = "3 family " + family + " of " + sizes[at];
                 if (due[family][at] == -1) {
@@ -91,20 +79,20 @@ public final class RoomsTest {
                 }
             }
         }
-        nextSets("3 path", withFamily(5, Coppinghouse.PATH), 2, 5, 10, 20, 8);
-        nextSets("3 ring", withFamily(5, Coppinghouse.RING), 18, 5, 10, 20, 9);
-        nextSets("3 star", withFamily(5, Coppinghouse.STAR), 30, 1, 1, 1, 1);
-        nextSets("3 all", withFamily(5, Coppinghouse.ALL), 30, 29, 27, 23, 15);
-        nextSets("3 ring of 3", withFamily(3, Coppinghouse.RING), 6, 5, 3);
+        nextSets("3 path", Make.family(5, Coppinghouse.PATH), 2, 5, 10, 20, 8);
+        nextSets("3 ring", Make.family(5, Coppinghouse.RING), 18, 5, 10, 20, 9);
+        nextSets("3 star", Make.family(5, Coppinghouse.STAR), 30, 1, 1, 1, 1);
+        nextSets("3 all", Make.family(5, Coppinghouse.ALL), 30, 29, 27, 23, 15);
+        nextSets("3 ring of 3", Make.family(3, Coppinghouse.RING), 6, 5, 3);
 
-        Coppinghouse x = withFamily(2, Coppinghouse.PATH);
+        Coppinghouse x = Make.family(2, Coppinghouse.PATH);
         Check.argument("3 family -1", () -> x.family(-1));
         Check.argument("3 family 4", () -> x.family(4));
         Check.argument("3 family far", () -> x.family(FAR));
         Check.state("3 ring of 2", () -> x.family(Coppinghouse.RING));
         nextSets("3 nothing changed", x, 2, 1);
 
-        Coppinghouse y = withFamily(4, Coppinghouse.ALL);
+        Coppinghouse y = Make.family(4, Coppinghouse.ALL);
         y.family(Coppinghouse.PATH);
         nextSets("3 no doors of before", y, 2, 5, 10, 4);
     }
@@ -117,7 +105,7 @@ public final class RoomsTest {
     }
 
     private static void promise4Door() {
-        Coppinghouse x = withRooms(4);
+        Coppinghouse x = Make.rooms(4);
         Check.due("4 made", x.door(1, 3, true), false);
         nextSets("4 made", x, 0, 8, 0, 2);
         Check.due("4 told the other way", x.door(3, 1, true), true);
@@ -138,7 +126,7 @@ public final class RoomsTest {
     }
 
     private static void promise4DoorsAndDeeds() {
-        Coppinghouse x = withRooms(9);
+        Coppinghouse x = Make.rooms(9);
         for (int deed = 0; deed < 200; deed++) {
             Check.due("4 deed " + deed, x.door(7, 8, deed % 2 == 0), deed % 2 != 0);
         }
@@ -153,7 +141,7 @@ public final class RoomsTest {
     }
 
     private static void promise5Shoot() {
-        Coppinghouse x = withFamily(5, Coppinghouse.PATH);
+        Coppinghouse x = Make.family(5, Coppinghouse.PATH);
         Check.due("5 shoot 1", x.shoot(1), 30);
         Check.due("5 rabbit", x.rabbit(), 30);
         Check.due("5 outside", x.shoot(0), 31);
@@ -168,14 +156,14 @@ public final class RoomsTest {
         Check.due("5 all rooms again", x.rabbit(), 31);
         Check.due("5 nowhere from 0", x.shoot(2), 28);
 
-        Coppinghouse y = withRooms(3);
+        Coppinghouse y = Make.rooms(3);
         Check.due("5 comes nowhere", y.shoot(0), 0);
         Check.state("5 the set is empty", () -> y.shoot(0));
         Check.index("5 no room ahead of the empty set", () -> y.shoot(3));
         Check.due("5 one deed", y.back(), 0);
         Check.due("5 the set is back", y.rabbit(), 7);
 
-        Coppinghouse z = withFamily(9, Coppinghouse.ALL);
+        Coppinghouse z = Make.family(9, Coppinghouse.ALL);
         for (int deed = 0; deed < 200; deed++) {
             Check.due("5 deed " + deed, z.shoot(deed % 9), 511);
         }
@@ -186,7 +174,7 @@ public final class RoomsTest {
     }
 
     private static void promise6Back() {
-        Coppinghouse x = withFamily(4, Coppinghouse.PATH);
+        Coppinghouse x = Make.family(4, Coppinghouse.PATH);
         Check.state("6 none", x::back);
         Check.due("6 shoot", x.shoot(1), 14);
         Check.due("6 shoot", x.shoot(2), 5);
@@ -210,7 +198,7 @@ public final class RoomsTest {
     }
 
     private static void promise6BackOfManyDeeds() {
-        Coppinghouse x = withRooms(9);
+        Coppinghouse x = Make.rooms(9);
         int[] doors = new int[201];
         for (int deed = 0; deed < 200; deed++) {
             doors[deed] = x.doors();
@@ -227,7 +215,7 @@ public final class RoomsTest {
     }
 
     private static void promise6Forgets() {
-        Coppinghouse x = withFamily(4, Coppinghouse.PATH);
+        Coppinghouse x = Make.family(4, Coppinghouse.PATH);
         x.shoot(1);
         x.door(0, 2, true);
         x.family(Coppinghouse.STAR);
@@ -250,7 +238,7 @@ public final class RoomsTest {
     }
 
     private static void promise7Doors() {
-        Coppinghouse x = withFamily(9, Coppinghouse.ALL);
+        Coppinghouse x = Make.family(9, Coppinghouse.ALL);
         Check.due("7 all", x.doors(), 36);
         x.door(8, 0, false);
         x.door(3, 4, false);
@@ -264,7 +252,7 @@ public final class RoomsTest {
     }
 
     private static void promise8Next() {
-        Coppinghouse x = withFamily(9, Coppinghouse.RING);
+        Coppinghouse x = Make.family(9, Coppinghouse.RING);
         Check.due("8 the first", x.next(0), 258);
         Check.due("8 the last", x.next(8), 129);
         Check.index("8 next 9", () -> x.next(9));
